@@ -25,16 +25,16 @@ final class Check {
     }
 
     /** The call throws IllegalArgumentException and changes nothing. */
-    void argument(CallBook book, String call, Call made) {
-        refused(book, call, IllegalArgumentException.class, made);
+    void argument(CallBook book, String call, Runnable run) {
+        refused(book, call, IllegalArgumentException.class, run);
     }
 
     /** The call throws IllegalStateException and changes nothing. */
-    void state(CallBook book, String call, Call made) {
-        refused(book, call, IllegalStateException.class, made);
+    void state(CallBook book, String call, Runnable run) {
+        refused(book, call, IllegalStateException.class, run);
     }
 
-    private void refused(CallBook book, String call, Class<?> due, Call run) {
+    private void refused(CallBook book, String call, Class<?> due, Runnable run) {
         String before = picture(book);
         String thrown = "nothing";
         try {

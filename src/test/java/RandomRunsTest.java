@@ -3,7 +3,7 @@ import java.util.Random;
 
 /** Promises 1 to 15 together: long runs of calls, each answer and state set beside PlainBook's. */
 final class RandomRunsTest {
-    private static final int RUNS = 400;
+    private static final int RUNS = 240;
     private static final int CALLS = 512;
 
     private final Check check;
