@@ -50,10 +50,14 @@ public final class CallBook {
         if (!isOwner(owner) || !isPriceOrMarket(price) || !isQuantity(quantity)) {
             throw new IllegalArgumentException();
         }
-        if (!isLife(life) || !isPeak(peak) || !fitsPeak(quantity, peak) || (peak != 0 && life != GOOD)) {
+        if (!isPeak(peak) || !fitsPeak(quantity, peak) || !isLife(life)) {
             throw new IllegalArgumentException();
         }
-        if (orders.size() >= MOST_ORDERS || phase == STOPPED || (life != GOOD && phase != GOING_ON)) {
+        if (peak != 0 && life != GOOD) {
+            throw new IllegalArgumentException();
+        }
+        boolean tooEarly = life != GOOD && phase != GOING_ON;
+        if (orders.size() >= MOST_ORDERS || phase == STOPPED || tooEarly) {
             throw new IllegalStateException();
         }
         Order fresh = new Order(orders.size(), owner, buys, peak, life);
@@ -532,7 +536,7 @@ public final class CallBook {
             int offering = 0;
             long wanted = leftOf(buyers);
             long offered = 0;
-            // As p rises, buyers drop out from the end of their line and sellers join from the front.
+            // As p rises, buyers drop out at the end of their line and sellers join at the front.
             for (int p = 1; p <= LAST_PRICE; p++) {
                 while (wanting > 0 && !buyers.get(wanting - 1).takes(p)) {
                     wanting--;
@@ -564,7 +568,7 @@ public final class CallBook {
             }
         }
 
-        /** Prices are weighed from the lowest up, so an equal one that comes later is not better. */
+        /** Prices are weighed from the lowest up, so an equal one that comes later is no better. */
         private boolean isBetter(int p, long moved, long over, int reference) {
             if (moved != volume) {
                 return moved > volume;

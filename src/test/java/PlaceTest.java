@@ -43,7 +43,8 @@ final class PlaceTest {
         for (int quantity : new int[] {-1, 0, 100001, most, least}) {
             refused(0, 1000, quantity, 0, 0);
         }
-        for (int peak : new int[] {-1, 100001, most, least}) {
+        // 50 times -60000000 comes out above 0 in an int.
+        for (int peak : new int[] {-1, 100001, most, least, -60000000}) {
             refused(0, 1000, 1, peak, 0);
         }
         for (int life : new int[] {-1, 3, most, least}) {
