@@ -598,8 +598,9 @@ public final class CallBook {
     /** All trades. */
     private static final class TradeLog {
         /**
-         * Above what 512 calls can make: an order that comes shows itself at most 50 times, which
-         * makes 50 trades, and ends in one trade of its own, so there are at most 51 a call.
+         * Above what 512 calls can make: a trade while it is GOING ON uses up what an order shows,
+         * at most 50 times for each that comes to rest, or the one that comes: 51 a call; a trade
+         * of a clearing uses up one of the 250 orders. That is 26362 at most.
          */
         private static final int MOST_TRADES = 32768;
 

@@ -1,4 +1,4 @@
-/** As many trades as 512 calls can make: all are kept, and told. */
+/** 21780 trades within 512 calls, near the most that there can be: all are kept, and told. */
 final class RoomTest {
     private static final int ORDERS = 220;
 
