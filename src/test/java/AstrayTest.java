@@ -17,6 +17,9 @@ final class AstrayTest {
         spoilt(1, order(filled(), 5), "shown", 1);
         spoilt(1, order(filled(), 2), "price", 991);
         spoilt(1, order(filled(), 1), "rank", 0);
+        spoilt(1, order(filled(), 0), "left", 0);
+        spoilt(1, order(filled(), 0), "left", 100001);
+        lost();
         crossed();
         check.due("astray() of a new object", new CallBook().astray(), 0);
         check.end();
@@ -52,6 +55,15 @@ final class AstrayTest {
         check.due("CALL, and crossed", book.astray(), 0);
         book.open();
         check.due("GOING ON again", book.astray(), 0);
+    }
+
+    private static void lost() throws ReflectiveOperationException {
+        CallBook book = filled();
+        Object buyers = field(book, "buyers").get(book);
+        ((List<?>) field(buyers, "line").get(buyers)).remove(2);
+        check.due("one that rests stands nowhere", book.astray(), 1);
+        field(order(book, 5), "left").setInt(order(book, 5), 1);
+        check.due("and something is left of one that is over", book.astray(), 2);
     }
 
     private static void crossed() throws ReflectiveOperationException {

@@ -7,17 +7,32 @@ final class Check {
     private final String name;
     private int made;
     private int wrong;
+    private String sentence = "";
+    private int madeBefore = -1;
 
     Check(String name) {
         this.name = name;
     }
 
+    /** The checks from here on are of this sentence of the document; each needs one at least. */
+    void says(String words) {
+        if (made == madeBefore) {
+            tell("there is no check");
+        }
+        sentence = " \"" + words + "\"";
+        madeBefore = made;
+    }
+
     void due(String call, long got, long want) {
         made++;
         if (got != want) {
-            wrong++;
-            System.out.println(name + ": " + call + " answered " + got + ", due is " + want);
+            tell(call + " answered " + got + ", due is " + want);
         }
+    }
+
+    private void tell(String fault) {
+        wrong++;
+        System.out.println(name + sentence + ": " + fault);
     }
 
     void due(String call, boolean got, boolean want) {
@@ -44,12 +59,10 @@ final class Check {
         }
         made++;
         if (!thrown.equals(due.getName())) {
-            wrong++;
-            System.out.println(name + ": " + call + " threw " + thrown + ", due is " + due.getName());
+            tell(call + " threw " + thrown + ", due is " + due.getName());
         }
         if (!before.equals(picture(book))) {
-            wrong++;
-            System.out.println(name + ": " + call + " threw and changed something");
+            tell(call + " threw and changed something");
         }
     }
 
@@ -89,6 +102,9 @@ final class Check {
             for (int what = 0; what < 9; what++) {
                 text.append(book.order(order, what)).append(' ');
             }
+            boolean buys = book.order(order, 1) == 1;
+            text.append(book.depth(buys, book.order(order, 2), false)).append(' ');
+            text.append(book.depth(buys, book.order(order, 2), true)).append(' ');
         }
         for (int i = 0; i < book.told(4); i++) {
             text.append(book.at(true, i)).append(' ');
@@ -101,10 +117,14 @@ final class Check {
                 text.append(book.trade(i, what)).append(' ');
             }
         }
-        return text.append(book.clearing(0)).append(' ').append(book.astray()).toString();
+        for (int what = 0; what < 3; what++) {
+            text.append(book.clearing(what)).append(' ');
+        }
+        return text.append(book.astray()).toString();
     }
 
     void end() {
+        says("");
         System.out.println(name + ": " + made + " checks, " + wrong + " wrong");
         if (wrong != 0 || made == 0) {
             System.exit(1);
