@@ -104,7 +104,7 @@ public final class CallBook {
         if (price == amended.price && quantity <= amended.left) {
             amended.lessen(quantity);
         } else {
-            leaveBook(amended);
+            side(amended.buys).leave(amended);
             amended.ask(price, quantity);
             come(amended);
         }
@@ -326,7 +326,7 @@ public final class CallBook {
         if (resting.left == 0) {
             finish(resting);
         } else if (resting.shown == 0) {
-            leaveBook(resting);
+            side(resting.buys).leave(resting);
             rest(resting);
         }
     }
@@ -367,19 +367,13 @@ public final class CallBook {
 
     private void rest(Order one) {
         one.shown = one.mayShow();
-        one.rank = nextRank;
+        side(one.buys).enter(one, nextRank);
         nextRank++;
-        side(one.buys).enter(one);
-    }
-
-    private void leaveBook(Order one) {
-        side(one.buys).leave(one);
-        one.rank = NONE;
     }
 
     private void finish(Order one) {
         if (one.rests()) {
-            leaveBook(one);
+            side(one.buys).leave(one);
         }
         one.left = 0;
         one.shown = 0;
@@ -503,7 +497,8 @@ public final class CallBook {
             return line.isEmpty() ? null : line.get(0);
         }
 
-        void enter(Order one) {
+        void enter(Order one, int rank) {
+            one.rank = rank;
             int place = line.size();
             // From the end, as an order with a new rank stands behind all others at its price.
             while (place > 0 && one.standsBefore(line.get(place - 1))) {
@@ -513,6 +508,7 @@ public final class CallBook {
         }
 
         void leave(Order one) {
+            one.rank = NONE;
             for (int i = 0; i < line.size(); i++) {
                 if (line.get(i) == one) {
                     line.remove(i);
